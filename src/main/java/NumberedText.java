@@ -15,7 +15,7 @@ public final class NumberedText {
     private static final int VERSIONS = 3;
     private static final int LEVELS = 4;
 
-    /** A page is left only when something stands on it, so there are never more than pieces and one. */
+    /** A page is left only when something stands on it, and there are never more lines and figures than this. */
     private static final int MOST_PAGES = MOST_PIECES + MOST_ITEMS;
 
     private static final int HEADING = 0, PARAGRAPH = 1, FIGURE = 2, TABLE = 3, LIST_OF_HEADINGS = 4,
@@ -484,6 +484,10 @@ public final class NumberedText {
             return kind >= LIST_OF_HEADINGS && kind <= LIST_OF_TABLES;
         }
 
+        boolean callsMark(int k, int called) {
+            return pieceKind[k] == CALL && pieceA[k] == called;
+        }
+
         boolean floats() {
             return kind == FIGURE || kind == TABLE;
         }
@@ -614,20 +618,35 @@ public final class NumberedText {
             return pieces;
         }
 
+        int countVainCalls() {
+            int vain = 0;
+            for (int i = 0; i < size; i++) {
+                for (int k = 0; k < items[i].pieces; k++) {
+                    if (items[i].pieceKind[k] == CALL && meantBy(items[i], k) == NONE) {
+                        vain++;
+                    }
+                }
+            }
+            return vain;
+        }
+
+        /** The mark that means the item; NONE if it has none, or one ahead of it has the same. */
+        private int markThatMeans(int place) {
+            int mark = items[place].mark;
+            return mark != NONE && meaning(mark) == place ? mark : NONE;
+        }
+
         int countCallsOf(int place) {
+            int mark = markThatMeans(place);
             int calls = 0;
             for (int i = 0; i < size; i++) {
                 for (int k = 0; k < items[i].pieces; k++) {
-                    if (items[i].pieceKind[k] == CALL && meantBy(items[i], k) == place) {
+                    if (items[i].callsMark(k, mark)) {
                         calls++;
                     }
                 }
             }
             return calls;
-        }
-
-        int countVainCalls() {
-            return countCallsOf(NONE);
         }
 
         int countMarksToldTwice() {
@@ -647,10 +666,11 @@ public final class NumberedText {
         }
 
         /** The place of the first paragraph that calls the item. */
-        int firstCallerOf(int place) {
+        private int firstCallerOf(int place) {
+            int mark = markThatMeans(place);
             for (int i = 0; i < size; i++) {
                 for (int k = 0; k < items[i].pieces; k++) {
-                    if (meantBy(items[i], k) == place) {
+                    if (items[i].callsMark(k, mark)) {
                         return i;
                     }
                 }
@@ -681,7 +701,7 @@ public final class NumberedText {
 
     /** How many letters a count is said with. */
     private static final class Saying {
-        private static final int BY_LETTERS = 1, BY_ROMAN = 2;
+        private static final int BY_FIGURES = 0, BY_LETTERS = 1, BY_ROMAN = 2;
         private static final int[] ROMAN_LETTERS = {0, 1, 2, 3, 2, 1, 2, 3, 4, 2};
 
         static int said(int n, int form) {
@@ -739,7 +759,7 @@ public final class NumberedText {
                 section[i] = heading;
                 own[i] = ownCount(item);
                 writeRow(i, heading == NONE ? 1 : text.items[heading].measure);
-                said[i] = say(item, i, text.style);
+                said[i] = item.kind == HEADING ? sayHeading(item.measure, text.style) : sayOther(i, item, text.style);
             }
         }
 
@@ -773,17 +793,6 @@ public final class NumberedText {
             }
         }
 
-        private int say(Item item, int i, Style style) {
-            if (item.kind == HEADING) {
-                return sayHeading(item.measure, style);
-            }
-            if (item.floats()) {
-                int chapter = style.figuresAnew() ? Saying.said(running[0], style.form(1)) + 1 : 0;
-                return chapter + Saying.figures(own[i]);
-            }
-            return section[i] == NONE ? 1 : said[section[i]];
-        }
-
         private int sayHeading(int level, Style style) {
             int letters = Saying.said(running[level - 1], style.form(level));
             if (style.isLong(level)) {
@@ -792,6 +801,14 @@ public final class NumberedText {
                 }
             }
             return letters;
+        }
+
+        private int sayOther(int i, Item item, Style style) {
+            if (item.floats()) {
+                int chapter = style.figuresAnew() ? Saying.said(running[0], style.form(1)) + 1 : 0;
+                return chapter + Saying.figures(own[i]);
+            }
+            return section[i] == NONE ? 1 : said[section[i]];
         }
 
         /** Levels go from 1 to 4. */
@@ -1015,6 +1032,7 @@ public final class NumberedText {
 
         void settle(Text newText, int height) {
             text = newText;
+            numbers.countAll(text);
             begin();
             for (int k = 0; k <= LAST_ROUND; k++) {
                 last = k;
@@ -1038,7 +1056,6 @@ public final class NumberedText {
         }
 
         private void begin() {
-            numbers.countAll(text);
             pieces = layout.numberPieces(text);
             for (int i = 0; i < text.size; i++) {
                 Item item = text.items[i];
@@ -1345,7 +1362,8 @@ public final class NumberedText {
                 noteAt(TOLD_ALREADY, numberFrom);
             }
             levelTold[level] = true;
-            draft.values[Style.FORM + level - 1] = takeForm();
+            draft.values[Style.FORM + level - 1] = formHere();
+            advance();
             boolean isLong = isWord("long");
             draft.values[Style.LONG + level - 1] = isLong ? 1 : 0;
             if (isLong) {
@@ -1413,17 +1431,17 @@ public final class NumberedText {
             return 0;
         }
 
-        private int takeForm() {
+        private int formHere() {
             if (isWord("letters")) {
-                advance();
                 return Saying.BY_LETTERS;
             }
             if (isWord("roman")) {
-                advance();
                 return Saying.BY_ROMAN;
             }
-            takeWord("figures");
-            return 0;
+            if (!isWord("figures")) {
+                note(CANNOT_STAND);
+            }
+            return Saying.BY_FIGURES;
         }
 
         private void takeSemicolon() {

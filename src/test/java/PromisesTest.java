@@ -286,7 +286,9 @@ public final class PromisesTest {
         due("drop(0)", x.drop(0), 1);
         due("the first is left", x.told(0, 0, 1), 3);
         due("the last is gone", x.told(0, 1, 0), UNKNOWN);
+        due("lines", x.page(0, 1), 1);
         due("drop(0)", x.drop(0), 0);
+        due("no lines", x.page(0, 1), 0);
         due("drop(0)", x.drop(0), NOT);
     }
 
@@ -509,6 +511,15 @@ public final class PromisesTest {
         due("a heading is never lonely", x.count(6), 2);
         due("a heading is never late", x.count(7), 0);
         due("a mark that one item has", x.count(5), 0);
+        x.mark(1, 0);
+        x.mark(2, 0);
+        due("mark 0", x.count(5), 1);
+        x.mark(1, 99);
+        x.mark(2, 99);
+        due("mark 99", x.count(5), 1);
+        x.piece(0, NOTE, 1, 0);
+        due("a note in the first item", x.count(9), 2);
+        due("pieces of the first item", x.count(2), 7);
     }
 
     // ---- setting
@@ -531,6 +542,26 @@ public final class PromisesTest {
         due("settled", x.set(0), 0);
         settleChapterByChapter();
         goesRound();
+        notesAtFirst();
+    }
+
+    /** Nine notes are said with the letter that each has in round 0, the tenth one is not. */
+    private static void notesAtFirst() {
+        NumberedText x = new NumberedText();
+        add(x, PARAGRAPH, 0);
+        for (int n = 1; n <= 9; n++) {
+            x.piece(0, NOTE, 1, 0);
+            due("settled with round 0", x.set(1), 0);
+        }
+        due("the first piece counts", x.told(0, 8, 7), 9);
+        x.piece(0, NOTE, 1, 0);
+        due("settled with round 1", x.set(1), 1);
+        due("letters of the tenth", x.told(0, 9, 4), 2);
+        x.put(0, FIGURE, 8);
+        x.put(1, FIGURE, 8);
+        readStyle(x, "notes anew;page 16 by 10;");
+        due("anew on the second page", x.told(2, 0, 7), 1);
+        due("all on one line", x.told(2, 9, 6), 1);
     }
 
     /**
@@ -768,6 +799,11 @@ public final class PromisesTest {
             due("ahead of item " + i, x.list(i, -1), isList ? NONE : NOT);
         }
         due("no item", x.list(10, 0), UNKNOWN);
+        x.move(3, 0);
+        dueList(x, 2, 0, 7);
+        x.move(3, 0);
+        dueList(x, 2, 0, 8);
+        due("lines of the list", x.page(2, 1), 2);
         NumberedText lines = withStyle("page 8 by 20;");
         addLines(lines, 7);
         int list = add(lines, FIGURES, 0);
@@ -962,6 +998,7 @@ public final class PromisesTest {
         x.put(0, FIGURE, 1);
         x.move(0, 2);
         x.feed(1, 'p');
+        due("lines ahead of it", x.page(0, 1), 1);
         due("back", x.back(0), 2);
         dueNames(x, 0, 1);
         due("H", x.style(0), 9);
@@ -974,6 +1011,8 @@ public final class PromisesTest {
         due("way", x.told(0, 0, 2), PLACE);
         due("note", x.told(0, 1, 1), 4);
         due("what is set", x.set(3), 1);
+        due("used", x.set(4), 6);
+        due("letters", x.told(0, 0, 4), 4);
         due("bytes stay", x.count(8), 1);
         due("names are not given again", x.put(0, PARAGRAPH, 0), 3);
         due("the version stays as it was", x.back(0), 2);
@@ -1031,10 +1070,28 @@ public final class PromisesTest {
         x.piece(1, CALL, 3, PLACE);
         dueBeside(x, "pieces of the same place alone", 0, 0, 0, 0, 0);
         x.back(0);
+        x.drop(1);
+        x.mark(3, NONE);
+        dueBeside(x, "a call that is no more", 0, 0, 0, 0, 0);
+        deepRows();
+        x.back(0);
+        x.back(0);
         readStyle(x, "page 8 by 20;level 1 roman;figures anew;");
         x.put(0, HEADING, 1);
         dueBeside(x, "each by its own style", 1, 4, 1, 2, 0);
         due("what is set stays that of the text", x.about(1, 6), 2);
+    }
+
+    private static void deepRows() {
+        NumberedText x = new NumberedText();
+        add(x, HEADING, 4);
+        add(x, HEADING, 4);
+        add(x, PARAGRAPH, 0);
+        x.keep(0);
+        x.move(2, 1);
+        dueBeside(x, "the paragraph changes from level 4's 2 to 1", 0, 1, 0, 0, 0);
+        x.put(0, HEADING, 2);
+        dueBeside(x, "a level ahead of all counts", 1, 3, 0, 0, 0);
     }
 
     // ---- style
@@ -1111,6 +1168,13 @@ public final class PromisesTest {
         dueFault("notes on;;", 1, 9);
         dueFault("noteson;", 1, 0);
         dueFault("pagex 8 by 10;", 1, 0);
+        dueFault("pagez 8 by 10;", 1, 0);
+        dueFault("page` 8 by 10;", 1, 4);
+        dueFault("page{ 8 by 10;", 1, 4);
+        dueFault("page 8/ by 10;", 1, 6);
+        dueFault("page 8: by 10;", 1, 6);
+        dueFault("page 0 by 10;", 2, 5);
+        dueFault("page 09 by 99;", 2, 11);
         dueFault("pa ge 8 by 10;", 1, 0);
         dueFault("notes new;", 1, 6);
         dueFault("chapters anew;", 1, 9);
