@@ -59,6 +59,9 @@ public final class BoundsOfCallsTest {
         due("the second one with the mark", x.called(1), 0);
         x.mark(2, 1);
         due("itself", x.called(2), 1);
+        x.move(3, 0);
+        due("called from the first item, too", x.called(1), 3);
+        x.move(0, 3);
         for (int i : new int[] {LEAST, -1, 4, 59, 60, MOST}) {
             due("called(" + i + ")", x.called(i), UNKNOWN);
         }
@@ -265,7 +268,9 @@ public final class BoundsOfCallsTest {
         due("knotted", x.knotted(1), 29);
         due("knotted", x.knotted(59), 29);
         x.drop(59);
-        due("knotted", x.knotted(59), 0);
+        due("the ring is open: the first one", x.knotted(0), 0);
+        due("one within", x.knotted(30), 0);
+        due("the last one", x.knotted(59), 0);
     }
 
     // ---- versions
@@ -403,6 +408,24 @@ public final class BoundsOfCallsTest {
         due("it is the later one", x.about(0, 0), 1);
     }
 
+    static void backAndWhatIsSet() {
+        Desk.sentence("THE TEXT, THE STYLE become as in a VERSION (what is SET then is SET anew)");
+        NumberedText x = Desk.styled("page 8 by 20;");
+        Desk.addLines(x, 8);
+        Desk.addPieces(x, CALL, 1, PLACE);
+        x.mark(0, 1);
+        x.keep(0);
+        due("pages", x.set(3), 2);
+        due("letters", x.told(1, 0, 4), 9);
+        x.cut(0);
+        due("pages", x.set(3), 1);
+        due("letters", x.told(0, 0, 4), 2);
+        x.back(0);
+        due("pages", x.set(3), 2);
+        due("letters", x.told(1, 0, 4), 9);
+        due("section", x.far(0, 1), 0);
+    }
+
     static void backAndNames() {
         Desk.sentence("(NAMES given since are not given again.)");
         NumberedText x = new NumberedText();
@@ -510,6 +533,23 @@ public final class BoundsOfCallsTest {
         due("a longer row", x.beside(0, 1), 1);
     }
 
+    static void besideNumberOfDeepRows() {
+        Desk.sentence("with another NUMBER (row of counts: the count of LEVEL 4, the count ahead of all)");
+        NumberedText x = new NumberedText();
+        Desk.add(x, HEADING, 4);
+        Desk.add(x, HEADING, 4);
+        Desk.add(x, PARAGRAPH, 0);
+        x.keep(0);
+        x.move(2, 1);
+        due("0, 0, 0, 2 becomes 0, 0, 0, 1", x.beside(0, 1), 1);
+        x.back(0);
+        x.put(0, HEADING, 1);
+        due("0, 0, 0, 2 becomes 1, 0, 0, 2", x.beside(0, 1), 3);
+        x.back(0);
+        x.move(2, 0);
+        due("0, 0, 0, 2 becomes 0", x.beside(0, 1), 1);
+    }
+
     static void besidePage() {
         Desk.sentence("with another PAGE");
         NumberedText x = Desk.styled("page 8 by 20;");
@@ -588,6 +628,22 @@ public final class BoundsOfCallsTest {
         x.drop(0);
         x.piece(0, CALL, 2, NUMBER);
         due("pieces of the same place", x.beside(0, 4), 1);
+    }
+
+    static void besideFewerPieces() {
+        Desk.sentence("PIECE by PIECE of the same place (one of both has fewer)");
+        NumberedText x = new NumberedText();
+        Desk.addPieces(x, CALL, 1, NUMBER, CALL, 1, PLACE, CALL, 1, PLACE);
+        x.mark(0, 1);
+        x.keep(0);
+        x.drop(0);
+        x.drop(0);
+        dueBeside(x, 0, 0, 0, 0, 0, 0);
+        x.keep(0);
+        x.piece(0, CALL, 2, NUMBER);
+        dueBeside(x, 0, 0, 0, 0, 0, 0);
+        x.piece(0, CALL, 2, PAGE);
+        dueBeside(x, 0, 0, 0, 0, 0, 0);
     }
 
     static void besideGoesByNames() {

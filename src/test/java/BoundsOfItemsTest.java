@@ -542,7 +542,7 @@ public final class BoundsOfItemsTest {
     static void saidOfAFigureAnew() {
         Desk.sentence("if they begin anew, also what LEVEL 1's count is SAID by its FORM, and 1");
         for (int kind : new int[] {FIGURE, TABLE}) {
-            NumberedText x = Desk.styled("level 1 roman;level 2 roman;figures anew;");
+            NumberedText x = Desk.styled("level 1 roman;level 2 letters;level 3 letters;figures anew;");
             Desk.add(x, kind, 1);
             Desk.add(x, HEADING, 1);
             Desk.add(x, HEADING, 1);
@@ -754,6 +754,24 @@ public final class BoundsOfItemsTest {
         due("pieces", x.about(1, 4), 0);
     }
 
+    static void droppedItIsSetNoMore() {
+        Desk.sentence("The last PIECE of the PARAGRAPH at place i is taken out (what is SET then is SET without it)");
+        NumberedText x = withParagraphs(1);
+        x.mark(0, 1);
+        x.piece(0, WORD, 20, 0);
+        x.piece(0, WORD, 19, 0);
+        x.piece(0, CALL, 1, NUMBER);
+        due("said with 1 letter in round 1", x.set(1), 1);
+        due("lines", x.page(0, 1), 2);
+        x.drop(0);
+        due("settled with round 0", x.set(1), 0);
+        due("lines", x.page(0, 1), 1);
+        x.drop(0);
+        x.drop(0);
+        due("settled with round 0", x.set(1), 0);
+        due("lines", x.page(0, 1), 0);
+    }
+
     static void dropNot() {
         Desk.sentence("drop: UNKNOWN, NOT: it is none, or has none");
         NumberedText x = withParagraphs(3);
@@ -857,6 +875,24 @@ public final class BoundsOfItemsTest {
             due("told(0, " + k + ", 3)", x.told(0, k, 3), means[k]);
             due("told(0, " + k + ", 7)", x.told(0, k, 7), count[k]);
         }
+    }
+
+    static void toldOfAPieceInTheRoomOfAnother() {
+        Desk.sentence("7 the count of a NOTE (0 of others; a WORD, where a NOTE was)");
+        NumberedText x = withParagraphs(1);
+        x.piece(0, NOTE, 4, 0);
+        due("a note", x.told(0, 0, 7), 1);
+        for (int kind : new int[] {WORD, CALL}) {
+            x.drop(0);
+            x.piece(0, kind, 1, 2);
+            due("its count", x.told(0, 0, 7), 0);
+            due("its lines", x.set(4), 1);
+            due("its b", x.told(0, 0, 2), kind == CALL ? 2 : 0);
+        }
+        x.drop(0);
+        x.piece(0, NOTE, 1, 2);
+        due("a note again", x.told(0, 0, 7), 1);
+        due("its b", x.told(0, 0, 2), 0);
     }
 
     static void countWhat() {

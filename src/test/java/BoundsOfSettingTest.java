@@ -727,6 +727,22 @@ public final class BoundsOfSettingTest {
         due("the call of the last chapter has not changed yet", x.told(35, 1, 4), 5);
     }
 
+    static void periodBehindARing() {
+        Desk.sentence("2 PERIOD (0 but of 1)");
+        NumberedText x = chain(11);
+        addRing(x);
+        x.mark(3, NONE);
+        due("without the chain's first mark", x.set(0), GOES_ROUND);
+        due("period", x.set(2), 2);
+        x.mark(3, 0);
+        due("with it", x.set(0), OPEN);
+        due("period", x.set(2), 0);
+        x.cut(x.means(77));
+        x.mark(3, NONE);
+        due("without the ring", x.set(0), SETTLED);
+        due("period", x.set(2), 0);
+    }
+
     static void goesRoundFromRoundOne() {
         Desk.sentence("it GOES ROUND from ROUND j, if they have just those of a ROUND j ahead of k: PERIOD k and 1 less j");
         NumberedText x = Desk.styled("page 8 by 10;chapters new;");

@@ -19,6 +19,8 @@ import java.util.regex.Pattern;
 public final class RandomRunsTest {
     private static final int RUNS = 300;
     private static final int CALLS = 400;
+    /** A chain is soon torn by calls by chance, so it is looked at behind each of a few. */
+    private static final int CALLS_ON_CHAINS = 12;
 
     public static void main(String[] args) {
         int runs = args.length > 0 ? Integer.parseInt(args[0]) : RUNS;
@@ -27,9 +29,13 @@ public final class RandomRunsTest {
         int[] periods = new int[13];
         for (int seed = seed0; seed < seed0 + runs; seed++) {
             Run run = new Run(seed);
-            for (int n = 0; n < CALLS; n++) {
+            boolean isChain = seed % 8 == 7;
+            if (isChain) {
+                run.buildChain();
+            }
+            for (int n = 0; n < (isChain ? CALLS_ON_CHAINS : CALLS); n++) {
                 run.step();
-                if (n % 20 == 19) {
+                if (isChain || n % 20 == 19) {
                     run.compareAll();
                     outcomes[run.model.setting().outcome]++;
                     periods[run.model.setting().period]++;
@@ -42,7 +48,7 @@ public final class RandomRunsTest {
         }
         System.out.println(runs + " runs; settled, goes round, open: " + Arrays.toString(outcomes)
                 + "; periods: " + Arrays.toString(periods));
-        if (outcomes[0] == 0 || outcomes[1] == 0) {
+        if (outcomes[0] == 0 || outcomes[1] == 0 || outcomes[2] == 0) {
             System.out.println("some outcome never came");
             System.exit(1);
         }
@@ -66,6 +72,37 @@ final class Run {
             readStyle("page " + (8 + random.nextInt(flavour == 0 ? 30 : 6)) + " by " + (10 + random.nextInt(30)) + ";"
                     + (random.nextBoolean() ? "notes anew;" : "") + (random.nextBoolean() ? "figures anew;" : "")
                     + (random.nextBoolean() ? "chapters new;" : ""));
+        }
+    }
+
+    /** Chapters, in each of which a call changes one round behind that of the chapter ahead; some with a ring behind. */
+    void buildChain() {
+        readStyle("page 8 by 10;chapters new;" + (random.nextBoolean() ? "notes anew;" : ""));
+        int chapters = 8 + random.nextInt(6);
+        for (int c = 1; c <= chapters; c++) {
+            add(0, 1, -1);
+            add(1, 0, -1, 0, 4, 0, 1, c - 1, 2, 0, 20, 0, 0, 20, 0);
+            add(1, 0, c, 0, 20, 0, 0, 20, 0, 0, 20, 0);
+            if (c == 1) {
+                add(1, 0, 0, 0, 20, 0);
+            }
+        }
+        if (random.nextBoolean()) {
+            add(0, 1, -1);
+            add(1, 0, -1, 0, 4, 0, 1, 77, 2);
+            add(1, 0, -1, 0, 20, 0, 0, 20, 0, 0, 20, 0, 0, 20, 0, 0, 20, 0, 0, 20, 0, 0, 20, 0, 0, 20, 0, 0, 20, 0, 0, 20, 0,
+                    0, 20, 0);
+            add(1, 0, 77, 0, 20, 0);
+        }
+    }
+
+    private void add(int kind, int a, int mark, int... pieces) {
+        int i = model.items.size();
+        due("put(" + i + ", " + kind + ", " + a + ")", real.put(i, kind, a), model.put(i, kind, a));
+        due("mark(" + i + ", " + mark + ")", real.mark(i, mark), model.mark(i, mark));
+        for (int k = 0; k + 2 < pieces.length; k += 3) {
+            due("piece(" + i + ")", real.piece(i, pieces[k], pieces[k + 1], pieces[k + 2]),
+                    model.piece(i, pieces[k], pieces[k + 1], pieces[k + 2]));
         }
     }
 
